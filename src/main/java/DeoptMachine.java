@@ -192,7 +192,8 @@ public final class DeoptMachine {
                 return FINISHED;
             }
         }
-        // Never reached: each spent credit buys at most one more pass over MAX_CODE instructions.
+        // Never reached: a frame passes each of its MAX_CODE positions at most once, and only a spent
+        // credit lets one begin anew, so a slice ends within (MAX_DEPTH + MAX_CREDIT) * MAX_CODE steps.
         return PAUSED;
     }
 
@@ -475,6 +476,7 @@ public final class DeoptMachine {
         }
     }
 
+    // A DIV by 0 does not come here, for stopBefore stops it.
     private void calculate(int op) {
         int b = pop();
         int a = pop();

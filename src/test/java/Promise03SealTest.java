@@ -8,6 +8,7 @@ public final class Promise03SealTest {
         lastOp();
         jumpTargets();
         calledFunctionNeedNotBeSealed();
+        erasedJumpsDoNotCount();
         onlyTheMarkChanges();
         CHECK.end();
     }
@@ -60,6 +61,15 @@ public final class Promise03SealTest {
     private static void calledFunctionNeedNotBeSealed() {
         due("calls an empty one", DeoptMachine.OK, Op.CALL0, 0, Op.RET, 0);
         due("calls itself", DeoptMachine.OK, Op.CALL0, 1, Op.RET, 0);
+    }
+
+    private static void erasedJumpsDoNotCount() {
+        DeoptMachine machine = new DeoptMachine(3, 16, 2, 1);
+        Programs.feed(machine, 1, Op.PUSH, 1, Op.STORE, 0, Op.JUMP, 15, Op.JUMP, 15);
+        CHECK.due("seal with wrong jumps", machine.seal(1), DeoptMachine.INVALID);
+        machine.erase(1);
+        Programs.feed(machine, 1, Op.PUSH, 1, Op.RET, 0);
+        CHECK.due("seal after erase", machine.seal(1), DeoptMachine.OK);
     }
 
     private static void onlyTheMarkChanges() {
