@@ -22,7 +22,7 @@ final class Programs {
         }
     }
 
-    /** A function that returns the value of one op, with the operand, on the arguments that it loads. */
+    /** What a function answers that carries out one arithmetic op on its two arguments. */
     static int calculate(int op, int a, int b) {
         DeoptMachine machine = new DeoptMachine(2, 8, 2, 1);
         define(machine, 0, Op.LOAD, 0, Op.LOAD, 1, op, 0, Op.RET, 0);
