@@ -53,4 +53,29 @@ final class Programs {
         machine.run(2);
         return machine;
     }
+
+    /** The machine of busy() in the given state, with the same functions, globals, marks and output. */
+    static DeoptMachine inState(int state) {
+        DeoptMachine machine = busy();
+        if (state != DeoptMachine.ACTIVE) {
+            machine.abandon();
+        }
+        if (state == DeoptMachine.DONE) {
+            machine.start(3, 0, 0);
+            machine.run(1);
+        }
+        return machine;
+    }
+
+    /** A machine whose run of function 0 has ended with the given code; the answer of the slice must be FINISHED. */
+    static DeoptMachine finished(int a, int b, int... code) {
+        DeoptMachine machine = new DeoptMachine(2, 32, 2, 1);
+        define(machine, 0, code);
+        machine.start(0, a, b);
+        int answer = machine.run(64);
+        if (answer != DeoptMachine.FINISHED) {
+            throw new IllegalStateException("run(64) answered " + answer);
+        }
+        return machine;
+    }
 }
