@@ -55,6 +55,23 @@ public final class Edge03SealTest {
         Programs.define(machine, 1, Op.JUMP, 0);
         machine.erase(1);
         check.due("seal of an erased one", machine.seal(1), DeoptMachine.INVALID);
+        for (int f = 0; f < 8; f++) {
+            DeoptMachine others = allButOneFull(f);
+            int[] before = Readings.of(others);
+            check.due("seal of an empty " + f + " among full ones", others.seal(f), DeoptMachine.INVALID);
+            check.unchanged("seal of an empty " + f + " among full ones", others, before);
+        }
+    }
+
+    /** Every function but one is as long as can be and ends in JUMP, so that the empty one is not taken for its neighbour. */
+    private static DeoptMachine allButOneFull(int empty) {
+        DeoptMachine machine = new DeoptMachine(8, 32, 2, 1);
+        for (int i = 0; i < 8 * 32; i++) {
+            if (i / 32 != empty) {
+                Programs.feed(machine, i / 32, Op.JUMP, 0);
+            }
+        }
+        return machine;
     }
 
     private static void lastOp(Check check) {

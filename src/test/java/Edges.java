@@ -11,6 +11,7 @@ final class Edges {
     private static final Path DOCUMENT = Path.of("../shared/DOC.md");
 
     private final int number;
+    // null where the document is not at hand: then the tests run, but their quotations are not looked up.
     private final String promise;
     private int broken = 0;
 
@@ -22,7 +23,7 @@ final class Edges {
     /** Runs the test of a sentence. A test that throws has failed, and those after it still run. */
     void holds(String sentence, Consumer<Check> test) {
         Check check = new Check();
-        if (!promise.contains(sentence)) {
+        if (promise != null && !promise.contains(sentence)) {
             check.report("the document does not say this");
         }
         try {
@@ -50,6 +51,10 @@ final class Edges {
     }
 
     private static String textOf(int number) throws IOException {
+        if (!Files.exists(DOCUMENT)) {
+            System.out.println(DOCUMENT + " is not there: the quotations are not looked up");
+            return null;
+        }
         String document = Files.readString(DOCUMENT);
         int from = document.indexOf("## Promise " + number + ":");
         int to = from < 0 ? -1 : document.indexOf("\n## ", from);
