@@ -114,6 +114,12 @@ public final class Edge06StartTest {
     private static void theRestStays(Check check) {
         for (int state : new int[] {DeoptMachine.IDLE, DeoptMachine.DONE}) {
             DeoptMachine machine = Programs.inState(state);
+            // The runs that led here began with start too, so what it must leave alone is written after them.
+            for (int g = 0; g < 8; g++) {
+                machine.assume(g);
+                machine.setGlobal(g, 100 + g);
+                machine.assume(g);
+            }
             int[] before = Readings.of(machine);
             machine.start(1, 6, 7);
             check.changedOnly("start from state " + state, machine, before, "status(0)", "status(2)", "frame(0, 0)",

@@ -18,6 +18,8 @@ public final class Edge07RunTest {
             + "step 2.";
     private static final String STEP_ONE_FIRST = "Because step 1 comes first, a call met with credit 0 stops with `PAUSED` "
             + "even if it would otherwise stop with `MISSING` or `DEPTH`.";
+    private static final String APART = "Apart from the effects named here (frames, globals, marks, failures, output, result "
+            + "and state) a run changes nothing; the code of functions and their sealed marks stay.";
 
     public static void main(String[] args) throws IOException {
         Edges edges = new Edges(7);
@@ -61,8 +63,8 @@ public final class Edge07RunTest {
         edges.holds(LOST, Edge07RunTest::creditOfAStoppedCallIsLost);
         edges.holds(STEP_ONE_FIRST, Edge07RunTest::pausedBeforeMissing);
         edges.holds(STEP_ONE_FIRST, Edge07RunTest::pausedBeforeDepth);
-        edges.holds("Apart from the effects named here (frames, globals, marks, failures, output, result and state) a run "
-                + "changes nothing; the code of functions and their sealed marks stay.", Edge07RunTest::codeStays);
+        edges.holds(APART, Edge07RunTest::codeStays);
+        edges.holds(APART, Edge07RunTest::onlyWhatTheInstructionsDo);
         edges.holds("The result changes only at `FINISHED`.", Edge07RunTest::resultOnlyAtTheEnd);
         edges.end();
     }
@@ -610,6 +612,25 @@ public final class Edge07RunTest {
         }
     }
 
+    /** Sums that write no global and print nothing: the slice drops its frame and leaves its result. */
+    private static void onlyWhatTheInstructionsDo(Check check) {
+        DeoptMachine machine = printed(7);
+        Programs.define(machine, 0, Op.GET, 6, Op.LOAD, 0, Op.ADD, 0, Op.STORE, 0, Op.LOAD, 1, Op.JUMP_IF, 8, Op.LOAD, 0,
+                Op.RET, 0, Op.PUSH, 0, Op.STORE, 1, Op.JUMP, 0);
+        for (int g = 0; g < 8; g++) {
+            machine.assume(g);
+            machine.setGlobal(g, 100 + g);
+            machine.assume(g);
+        }
+        machine.start(0, 5, 1);
+        machine.optimise(0);
+        int[] before = Readings.of(machine);
+        check.due("the only slice", machine.run(1), DeoptMachine.FINISHED);
+        check.changedOnly("the only slice", machine, before, "status(0)", "status(1)", "status(2)", "frame(0, 3)",
+                "frame(0, 4)");
+        check.due("5 + 106 + 106", machine.status(1), 217);
+    }
+
     private static void resultOnlyAtTheEnd(Check check) {
         DeoptMachine[] machines = {beforeCall(Op.CALL1, false), beforeCall(Op.CALL1, true), beforeDiv(), looping(3),
             looping(1000)};
@@ -619,6 +640,7 @@ public final class Edge07RunTest {
             check.due("run", machines[i].run(5), wants[i]);
             check.due("result at stop " + wants[i], machines[i].status(1), wants[i] == DeoptMachine.FINISHED ? 3 : 0);
         }
+        check.due("result after a value was returned to a caller", returned(check).status(1), 0);
         DeoptMachine machine = Programs.busy();
         for (int slice = 0; slice < 20; slice++) {
             machine.run(1 + slice % 3);
